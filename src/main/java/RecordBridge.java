@@ -842,8 +842,8 @@ public final class RecordBridge {
       long rest = whole;
       int signs = 0;
       do {
-        long digit = Math.abs(rest % 10);
-        word |= digit + 1 << 5 * signs;
+        long digit = rest % 10;
+        word |= (digit < 0 ? -digit : digit) + 1 << 5 * signs;
         rest /= 10;
         signs++;
       } while (signs < WORD_LETTERS && rest != 0);
@@ -1269,11 +1269,12 @@ public final class RecordBridge {
     Plan plan;
     private int state;
     private int at;
-    /** What stands next: its letters or digits, the first six of the letters as a name, which own word they are. */
+    /** What stands next: how many letters, as a name, as an own word; how many digits, the first three as a number. */
     private int letters;
-    private int digits;
     private int word;
     private int ownWord;
+    private int digits;
+    private int number;
     /** What is being read: a scheme, a field's kind; a crossing, its schemes, a rule, its target. */
     private Shape shape = new Shape();
     private int kind;
@@ -1329,6 +1330,7 @@ public final class RecordBridge {
       }
       letters = tape.lettersFrom(at);
       digits = tape.digitsFrom(at);
+      number = tape.numberFrom(at, Math.min(digits, NUMBER_DIGITS));
       word = tape.nameFrom(at);
       ownWord = NONE;
       for (int i = 0; i < OWN_COUNT && letters > 0 && letters <= Tape.NAME_LETTERS; i++) {
@@ -1409,12 +1411,7 @@ public final class RecordBridge {
       if (digits > NUMBER_DIGITS) {
         return refuse(NO_TEXT, at + NUMBER_DIGITS);
       }
-      int number = nextNumber();
       return number >= low && number <= high || refuse(NO_NUMBER, at);
-    }
-
-    private int nextNumber() {
-      return tape.numberFrom(at, Math.min(digits, NUMBER_DIGITS));
     }
 
     private boolean refuseOneMore() {
@@ -1483,7 +1480,7 @@ public final class RecordBridge {
       if (!numberStands(1, 4)) {
         return false;
       }
-      shape.repeatLast(nextNumber());
+      shape.repeatLast(number);
       return goOn(ASK_FIELD_SIGN);
     }
 
@@ -1536,7 +1533,7 @@ public final class RecordBridge {
       if (second.kindOf(target) == Kinds.BIT) {
         return refuse(WRONG_FIELD, at);
       }
-      return beginRule(Rule.NUMBER, NONE, nextNumber(), ASK_RULE_SIGN);
+      return beginRule(Rule.NUMBER, NONE, number, ASK_RULE_SIGN);
     }
 
     private boolean takeFieldSource() {
@@ -1572,7 +1569,7 @@ public final class RecordBridge {
       if (!numberStands(1, 999)) {
         return false;
       }
-      rule.other = nextNumber();
+      rule.other = number;
       return goOn(ASK_RULE_SIGN);
     }
 
