@@ -13,6 +13,8 @@ public final class BookTest {
     feedAndEnd();
     books();
     textFaults();
+    cutFaults();
+    longNames();
     numberFaults();
     nameFaults();
     fieldFaults();
@@ -182,6 +184,41 @@ public final class BookTest {
     faultAt(TWO + "cross a to b z from i", "", 1);
     faultAt(TWO + "cross a to b z from i plus", "", 1);
     faultAt(TWO + "cross a to b z from i ", "\u00e9;", 1);
+  }
+
+  /** What stood on the tape behind its end counts for nothing. */
+  private static void cutFaults() {
+    String text = "scheme abcdefg int x times 1,word zzz;";
+    for (int length = 0; length < text.length(); length++) {
+      RecordBridge cut = new RecordBridge();
+      Checks.feed(cut, text);
+      cut.end(length);
+      RecordBridge whole = new RecordBridge();
+      Checks.feed(whole, text.substring(0, length));
+      due("book() of " + length, cut.book(), whole.book());
+      due("its place", cut.fault(1), whole.fault(1));
+    }
+    RecordBridge bridge = new RecordBridge();
+    Checks.feed(bridge, "scheme a int xy;");
+    bridge.end(14);
+    due("a word cut short", bridge.book(), -1);
+    due("its place", bridge.fault(1), 14);
+    Checks.feed(bridge, "scheme a int x times 11");
+    bridge.end(22);
+    due("a number cut short", bridge.book(), -1);
+    due("its place", bridge.fault(1), 22);
+  }
+
+  /** Seven letters, and none at all, wherever a name is asked. */
+  private static void longNames() {
+    String[] ahead = {"scheme ", "scheme a int ", TWO + "cross ", TWO + "cross a to ", TWO + "cross a to b ",
+        TWO + "cross a to b z from ", TWO + "cross a to b z from i plus "};
+    for (String text : ahead) {
+      faultAt(text + "abcdef", "g", 1);
+      faultAt(text, "cross", 1);
+      faultAt(text, "", 1);
+      faultAt(text, ",", 1);
+    }
   }
 
   /** No fault: the text is a book. */

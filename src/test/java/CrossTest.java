@@ -474,6 +474,13 @@ public final class CrossTest {
     round.make(0);
     round.write(0, 0, 0, 4, 300);
     leastIs(round, 0, 1, 0, 1, 2, 0);
+    RecordBridge last = Checks.withBook("scheme a int x;scheme b byte y,byte z;scheme c long x;"
+        + "cross a to b y from x,z from x;cross b to a x from y;cross c to a x from 0;cross a to c x from 0;");
+    last.make(0);
+    last.write(0, 0, 0, 4, 300);
+    leastIs(last, 0, 1, 0, 3, 2, 0);
+    last.make(1);
+    leastIs(last, 1, 2, 0, 1, 3);
   }
 
   private static void originsOfRecords() {
@@ -493,6 +500,18 @@ public final class CrossTest {
     bridge.put(1, 1, 0, 8, 1);
     due("all values", bridge.origins(0, 0), 0);
     due("of the other one", bridge.origins(1, 0), 0);
+    RecordBridge small = Checks.withBook("scheme s int a times 4;scheme t int a;cross s to t a from a;"
+        + "cross t to s a from a;");
+    small.make(1);
+    small.make(0);
+    for (int i = 0; i < 4; i++) {
+      small.write(0, 0, i, 4, 7);
+    }
+    due("would", small.would(0, 0, 0), 1);
+    due("what other records hold counts for nothing", small.cross(1, 0), 1);
+    due("not filled", small.cell(0, 0, 1, 3), 0);
+    due("origins", small.origins(1, 1), 1);
+    due("origins", small.origins(1, 0), 0);
     due("no record", bridge.origins(0, 1), -1);
     due("no record", bridge.origins(0, -1), -1);
     due("no record", bridge.origins(1, 8), -1);
@@ -527,6 +546,20 @@ public final class CrossTest {
     tellingIs(bridge, 0, 2);
     bridge.write(0, 1, 4, 4, 2);
     tellingIs(bridge, 1, 1);
+    RecordBridge alike = Checks.withBook("scheme s bit o,int i times 4,bit p;");
+    alike.chance(1);
+    for (int i = 0; i < 7; i++) {
+      alike.copy(0, 0);
+    }
+    tellingIs(alike, 0, 8);
+    for (int i = 0; i < 8; i++) {
+      alike.write(0, 1, 4 * i + 1, 4, i < 4 ? 1 : 2);
+    }
+    tellingIs(alike, 1, 4);
+    for (int i = 0; i < 8; i++) {
+      alike.write(0, 1, 4 * i + 3, 4, i % 2);
+    }
+    tellingIs(alike, 1, 2);
     due("others", bridge.tells(0, 2), -1);
     due("others", bridge.tells(0, -1), -1);
     due("no records", bridge.tells(1, 0), -1);

@@ -215,9 +215,12 @@ public final class RecordTest {
     due("a copy", bridge.has(4), 1);
     due("its place", bridge.get(0, 0, 2, 1), 0);
     due("its place", bridge.get(0, 0, 3, 1), 8);
+    int acts = bridge.has(3);
     bridge.drop(0, 0);
+    due("a drop is an act", bridge.has(3), acts + 1);
     bridge.undo();
     due("a drop", bridge.has(4), 1);
+    due("its other cell", bridge.get(0, 0, 3, 1), 8);
     due("its cell", bridge.cell(0, 0, 0, 0), 5);
     due("cross", bridge.cross(0, 0), 0);
     int lost = bridge.account(0);

@@ -270,6 +270,7 @@ public final class RowTest {
     putIs(bridge, 0, 4, 0, 10, -2);
     putIs(bridge, 0, 4, 99, 10, -2);
     putIs(bridge, 0, 0, 99, 10, -2);
+    putIs(bridge, 1, 1, 99, 10, -2);
     putIs(bridge, 0, 4, 99, 8, -1);
     putIs(bridge, 0, 4, 0, 8, -2);
     putIs(bridge, 0, 4, 0, 9, -2);
@@ -390,6 +391,11 @@ public final class RowTest {
     due("no record", bridge.unlike(0, -1, 0), NOTHING);
     due("no record", bridge.unlike(1, 0, 0), NOTHING);
     due("no scheme", bridge.unlike(2, 0, 0), NOTHING);
+    for (int i = 0; i < 2; i++) {
+      bridge.make(1);
+      bridge.make(1);
+    }
+    due("what other records hold counts for nothing", bridge.unlike(1, 0, 1), 0);
     String most = "int a times 4,int b times 4,int c times 4,int d times 4,int e times 4,int f times 4;";
     bridge = Checks.withBook("scheme s " + most);
     bridge.make(0);
