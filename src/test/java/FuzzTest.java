@@ -207,10 +207,15 @@ public final class FuzzTest {
   // ---- calls
 
   private int scheme() {
-    return pick(12) == 0 ? pick(6) - 2 : pick(3);
+    return any(3);
   }
 
+  /** Mostly a number below many; some a little aside, few as far as they go. */
   private int any(int many) {
+    if (pick(150) == 0) {
+      int[] far = {Integer.MAX_VALUE, Integer.MIN_VALUE, 1 << 30, 1 << 16, -65536, Integer.MAX_VALUE / 24 + 1};
+      return far[pick(far.length)];
+    }
     return pick(12) == 0 ? pick(many + 6) - 3 : pick(many);
   }
 
@@ -366,7 +371,7 @@ public final class FuzzTest {
   private void callSeldom(int what) {
     switch (pick(6)) {
       case 0 -> {
-        int seed = random.nextInt() >> pick(8);
+        int seed = pick(4) == 0 ? any(2) : random.nextInt() >> pick(8);
         due("seed", bridge.seed(seed), model.seed(seed));
       }
       case 1 -> due("end", bridge.end(what - 1), model.end(what - 1));
