@@ -36,8 +36,8 @@ public final class RecordBridge {
   private int drawn;
 
   public RecordBridge() {
-    tape = new Tape();
-    reader = new BookReader(tape);
+    reader = new BookReader();
+    tape = reader.tape;
     rows = new Rows();
     carrier = new Carrier();
     ways = new Ways();
@@ -1265,8 +1265,8 @@ public final class RecordBridge {
     private static final int NUMBER_DIGITS = 3;
 
     private final int[] ownWords = new int[OWN_COUNT];
-    private final Tape tape;
-    Plan plan;
+    final Tape tape = new Tape();
+    Plan plan = new Plan();
     private int state;
     private int at;
     /** What stands next: how many letters, as a name, as an own word; how many digits, the first three as a number. */
@@ -1287,9 +1287,7 @@ public final class RecordBridge {
     int faultSort;
     int faultPlace = NONE;
 
-    BookReader(Tape newTape) {
-      tape = newTape;
-      plan = new Plan();
+    BookReader() {
       int own = 0;
       int letter = 0;
       for (int i = 0; i < OWN_WORDS.length(); i++) {
