@@ -4,12 +4,29 @@ import java.nio.charset.StandardCharsets;
 final class Checks {
   private int asked;
   private int wrong;
+  private String sentence = "";
+  private int askedAhead;
+
+  /** What is asked from here on would be answered otherwise, if this sentence of the document were broken. */
+  void sentence(String words) {
+    endSentence();
+    sentence = words;
+    askedAhead = asked;
+  }
+
+  private void endSentence() {
+    if (!sentence.isEmpty() && asked == askedAhead) {
+      wrong++;
+      System.out.println("nothing is asked of: " + sentence);
+    }
+  }
 
   void due(String what, long got, long want) {
     asked++;
     if (got != want) {
       wrong++;
-      System.out.println(what + " answered " + got + ", due is " + want);
+      System.out.println(what + " answered " + got + ", due is " + want
+          + (sentence.isEmpty() ? "" : ", as the document says: " + sentence));
     }
   }
 
@@ -19,6 +36,7 @@ final class Checks {
 
   /** Ends the program: with exit code 1 if there was a wrong answer. */
   void close(String name) {
+    endSentence();
     System.out.println(name + ": " + asked + " answers, " + wrong + " wrong");
     if (wrong != 0 || asked == 0) {
       System.exit(1);

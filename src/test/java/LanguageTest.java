@@ -5,6 +5,7 @@ import com.sun.source.tree.LambdaExpressionTree;
 import com.sun.source.tree.MemberReferenceTree;
 import com.sun.source.tree.MethodInvocationTree;
 import com.sun.source.tree.MethodTree;
+import com.sun.source.tree.NewArrayTree;
 import com.sun.source.tree.NewClassTree;
 import com.sun.source.tree.ThrowTree;
 import com.sun.source.tree.Tree;
@@ -167,8 +168,22 @@ public final class LanguageTest extends TreePathScanner<Void, ExecutableElement>
     return super.visitMethodInvocation(tree, method);
   }
 
+  /** What a run makes is counted, so that all is made with the object; outside methods stand the fields. */
+  private void made(ExecutableElement method, Tree tree) {
+    if (method != null && !method.getSimpleName().contentEquals("<init>")) {
+      refuse("an object made by " + method, tree);
+    }
+  }
+
+  @Override
+  public Void visitNewArray(NewArrayTree tree, ExecutableElement method) {
+    made(method, tree);
+    return super.visitNewArray(tree, method);
+  }
+
   @Override
   public Void visitNewClass(NewClassTree tree, ExecutableElement method) {
+    made(method, tree);
     called(trees.getElement(getCurrentPath()), method, tree);
     return super.visitNewClass(tree, method);
   }
