@@ -1,17 +1,45 @@
+import java.io.IOException;
+import java.io.UncheckedIOException;
 import java.nio.charset.StandardCharsets;
+import java.nio.file.Files;
+import java.nio.file.Path;
+import java.util.Locale;
 
 /** Counts answers that are not the due ones, and feeds texts to a bridge. */
 final class Checks {
+  private static final Path DOCUMENT = Path.of("..", "shared", "DOC.md");
+
   private int asked;
   private int wrong;
   private String sentence = "";
   private int askedAhead;
+  private String document = "";
 
   /** What is asked from here on would be answered otherwise, if this sentence of the document were broken. */
   void sentence(String words) {
     endSentence();
     sentence = words;
     askedAhead = asked;
+    if (document.isEmpty()) {
+      document = plain(read(DOCUMENT));
+    }
+    if (!document.contains(plain(words))) {
+      wrong++;
+      System.out.println("the document does not say: " + words);
+    }
+  }
+
+  private static String read(Path path) {
+    try {
+      return Files.readString(path);
+    } catch (IOException unread) {
+      throw new UncheckedIOException("no document beside the tests", unread);
+    }
+  }
+
+  /** Wherever lines end, and whether or not a quotation begins with a capital letter. */
+  private static String plain(String text) {
+    return text.replaceAll("\\s+", " ").toLowerCase(Locale.ROOT);
   }
 
   private void endSentence() {

@@ -2,8 +2,8 @@
 public final class RecordTest {
   private static final Checks CHECKS = new Checks();
   private static final long NOTHING = RecordBridge.NOTHING;
-  private static final String BOOK = "scheme s int i times 2,word w;scheme t bit o,byte b,char c,float f,double d,word w;"
-      + "cross s to t d from i;";
+  private static final String BOOK = "scheme s int i times 2,word w;"
+      + "scheme t bit o,byte b,char c,float f,double d,word w;cross s to t d from i;";
 
   public static void main(String[] args) {
     makes();
